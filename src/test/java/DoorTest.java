@@ -283,6 +283,7 @@ public final class DoorTest {
         LockHouse x = Houses.withCards(2);
         x.revoke(0);
         Houses.bring(x, 1, 0);
+        runs("a single entry", x, 0, 1, 1);
         CHECKS.noSuch("about(200, 0)", () -> x.about(200, 0));
         CHECKS.noSuch("about(-1, 0)", () -> x.about(-1, 0));
         CHECKS.noSuch("about(200, 5)", () -> x.about(200, 5));
