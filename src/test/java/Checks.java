@@ -47,6 +47,14 @@ final class Checks {
         tell(call + " " + got + ", due is " + want.getName());
     }
 
+    /** An answer that was got already, as text; due is null where any answer will do. */
+    void same(String call, String due, String got, boolean right) {
+        made++;
+        if (!right) {
+            tell(call + " answered " + got + ", due is " + (due == null ? "no exception" : due));
+        }
+    }
+
     void noSuch(String call, Runnable action) {
         thrown(call, IndexOutOfBoundsException.class, action);
     }
